@@ -870,12 +870,10 @@ public final class QuoitFeast {
             super(number, arm);
         }
 
-        @Override
         int kind() {
             return LEFT;
         }
 
-        @Override
         int telling(Trace steps) {
             steps.leave(2);
             return super.telling(steps) + 100;
@@ -887,19 +885,16 @@ public final class QuoitFeast {
             super(number, arm);
         }
 
-        @Override
         int kind() {
             return STRANGER;
         }
 
-        @Override
         int telling(Trace steps) {
             steps.leave(3);
             int asLeft = super.telling(steps);
             return asLeft + plainTelling(steps);
         }
 
-        @Override
         int cheering(Trace steps) {
             steps.leave(5);
             return 50;
@@ -1267,7 +1262,7 @@ public final class QuoitFeast {
 
         void matchUp() {
             for (int t = throwers - 1; t >= 0; t--) {
-                for (int taken = 0; taken < SETS; taken++) {
+                for (int taken = 0; taken < 1 << girls; taken++) {
                     noteWorth(t, taken, worthWith(t, taken, firstBest(t, taken)));
                 }
             }
@@ -1284,9 +1279,10 @@ public final class QuoitFeast {
             int best = NONE;
             int worth = -1;
             for (int g = 0; g < girls; g++) {
-                if (isFreeToWin(t, taken, g) && worthWith(t, taken, g) > worth) {
+                int reached = isFreeToWin(t, taken, g) ? worthWith(t, taken, g) : -1;
+                if (reached > worth) {
                     best = g;
-                    worth = worthWith(t, taken, g);
+                    worth = reached;
                 }
             }
             return worthWith(t, taken, NONE) > worth ? NONE : best;
