@@ -1200,7 +1200,7 @@ public final class QuoitFeast {
         final int[] girlsGiven = new int[MOST_THROWERS];
         final int[] refusedBy = new int[MOST_THROWERS];
         /** By thrower and set of girls taken: the best worth that he and those behind him can reach. */
-        final int[] worths = new int[(MOST_THROWERS + 1) * SETS];
+        final int[] worths = new int[MOST_THROWERS * SETS];
 
         void begin(int throwerCount, int girlCount) {
             throwers = throwerCount;

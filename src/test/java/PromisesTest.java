@@ -418,6 +418,7 @@ public final class PromisesTest {
     due("girl", feast(x, 0, -1, 11), -2);
     due("thrower", feast(x, 0, 1, 0), -1);
     due("thrower", feast(x, 0, -1, 3), -1);
+    due("pair by pair", feast(x, 0, 0, 0, 4, 10), -2);
     due("pair by pair", feast(x, 0, 1, 0, 0, 9), -1);
     due("pair by pair", feast(x, 0, 0, 9, 1, 0), -2);
     due("refusals go before the first wrong", feast(x, 1, 0, 3, 0, 9), -2);
@@ -500,6 +501,10 @@ public final class PromisesTest {
     due("the lesser of throwers", x.weds(2), 1);
     for (int r = 0; r < 8; r++) x.hurl(1, 0);
     due("rings do not count", x.weds(1), 0);
+    read(x, "q0,30;r5;r4;r3");
+    due("one is left for a nearer one", x.weds(0), -9);
+    due("and he for a nearer one still", x.weds(1), -9);
+    due("the nearest", x.weds(2), 0);
   }
 
   private static void evens() {
@@ -643,6 +648,9 @@ public final class PromisesTest {
     due("beyond", x.put(0, 60, 7), -13);
     due("anew", x.sheet(0, 0, 60), 1);
     due("0 at first", x.cell(0, 59, 0), 0);
+    x.put(0, 0, 7);
+    x.sheet(0, 0, 1);
+    due("0 at first", x.cell(0, 0, 0), 0);
     due("none", x.sheet(0, 2, 0), 1);
     due("none to put", x.put(0, 0, 7), -13);
     due("lose", x.lose(0), 1);
