@@ -296,7 +296,7 @@ public final class QuoitFeast {
         }
         int set = 0;
         for (int leaning = 0; leaning <= MOST_LEAN; leaning++) {
-            if (allSoIfLeaning(g, leaning)) {
+            if (allSoWith(NONE, 0, g, leaning)) {
                 set |= 1 << leaning;
             }
         }
@@ -310,7 +310,7 @@ public final class QuoitFeast {
         }
         int set = 0;
         for (int arm = LEAST_ARM; arm <= MOST_ARM; arm++) {
-            if (allSoIfReaching(t, reachOf(who.kind(), arm))) {
+            if (allSoWith(t, reachOf(who.kind(), arm), NONE, 0)) {
                 set |= 1 << arm;
             }
         }
@@ -324,7 +324,7 @@ public final class QuoitFeast {
         }
         int set = 0;
         for (int kind = RIGHT; kind <= STRANGER; kind++) {
-            if (allSoIfReaching(t, reachOf(kind, who.arm))) {
+            if (allSoWith(t, reachOf(kind, who.arm), NONE, 0)) {
                 set |= 1 << kind;
             }
         }
@@ -596,30 +596,17 @@ public final class QuoitFeast {
         }
     }
 
-    private boolean allSoIfLeaning(int g, int leaning) {
+    /** Whether all readings are so with that reach of thrower t, that leaning of girl g (NONE: as all are). */
+    private boolean allSoWith(int t, int reach, int g, int leaning) {
         for (int r = 0; r < readings.count; r++) {
             Right who = throwerOf(readings.throwerAt(r));
             Girl her = clay.girlAt(readings.girlAt(r));
             if (who == null || her == null) {
                 return false;
             }
-            int supposed = readings.girlAt(r) == g ? leaning : her.leaning;
-            if (nearnessBy(who.reach(), her.yards, supposed, clay.frost) != readings.nearAt(r)) {
-                return false;
-            }
-        }
-        return true;
-    }
-
-    private boolean allSoIfReaching(int t, int reach) {
-        for (int r = 0; r < readings.count; r++) {
-            Right who = throwerOf(readings.throwerAt(r));
-            Girl her = clay.girlAt(readings.girlAt(r));
-            if (who == null || her == null) {
-                return false;
-            }
-            int supposed = readings.throwerAt(r) == t ? reach : who.reach();
-            if (her.nearness(supposed, clay.frost) != readings.nearAt(r)) {
+            int supposedReach = who.number == t ? reach : who.reach();
+            int supposedLeaning = readings.girlAt(r) == g ? leaning : her.leaning;
+            if (nearnessBy(supposedReach, her.yards, supposedLeaning, clay.frost) != readings.nearAt(r)) {
                 return false;
             }
         }
@@ -984,7 +971,8 @@ public final class QuoitFeast {
 
     /** Reads a dale apart from the one that stands, which a faulty text must not touch. */
     private static final class Text {
-        static final int OPENING = 0, FROST = 1, GIRL = 2, YARDS = 3, LEANING = 4, LETTER = 5, ARM = 6, THROWER = 7;
+        static final int OPENING = 0, FROST = 1, GIRL = 2, YARDS = 3;
+        static final int LEANING = 4, LETTER = 5, ARM = 6, THROWER = 7;
 
         int awaited;
         int frost;
