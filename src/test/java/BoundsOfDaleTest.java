@@ -206,6 +206,17 @@ public final class BoundsOfDaleTest extends Bounds {
   }
 
   @Says(of = "Terms 1", words = "A TEXT that is taken makes all anew: no RINGS lie, no READINGS")
+  private static void aTextThatIsTakenLeavesSheetsAndTrace() {
+    // neither is of the dale: a trace is 0 "at first", sheets have nothing "at first"
+    QuoitFeast x = fair();
+    int trace = x.trace();
+    due("dale", x.dale(0, 0, 0, 23), 4);
+    due("trace", x.trace(), trace);
+    due("the sheet it was read of", x.cell(0, 0, 0), 'q');
+    due("another sheet", x.cell(1, 1, 1), -8);
+  }
+
+  @Says(of = "Terms 1", words = "A TEXT that is taken makes all anew: no RINGS lie, no READINGS")
   private static void aTextThatIsNotTakenLeavesAll() {
     leaves("a text that ends too soon", Bounds::fair, x -> x.dale(0, 0, 0, 22), -122);
     leaves("a text with a fault", Bounds::fair, x -> x.dale(0, 0, 1, 22), -100);
@@ -523,6 +534,11 @@ public final class BoundsOfDaleTest extends Bounds {
     due("freeze(-1), outside goes first", x.freeze(-1), OUTSIDE);
   }
 
+  @Says(of = "Promise 5", words = "FROST becomes v (0 .. 3): what it was")
+  private static void freezeChangesFrostAlone() {
+    leaves("there and back", Bounds::fair, x -> x.freeze(3) * 10 + x.freeze(1), 13);
+  }
+
   // ---- promise 6: lean
 
   @Says(of = "Promise 6", words = "LEAN of a GIRL becomes v (0 .. 9): what it was. UNKNOWN; OUTSIDE")
@@ -539,6 +555,11 @@ public final class BoundsOfDaleTest extends Bounds {
   private static void leanUnknownGoesFirst() {
     due("lean(3, 10)", fair().lean(3, 10), UNKNOWN);
     due("lean(-1, -1)", fair().lean(-1, -1), UNKNOWN);
+  }
+
+  @Says(of = "Promise 6", words = "LEAN of a GIRL becomes v (0 .. 9): what it was")
+  private static void leanChangesHersAlone() {
+    leaves("there and back", Bounds::fair, x -> x.lean(2, 9) * 10 + x.lean(2, 2), 29);
   }
 
   // ---- promise 7: place
@@ -559,6 +580,11 @@ public final class BoundsOfDaleTest extends Bounds {
     due("place(-1, 0)", fair().place(-1, 0), UNKNOWN);
   }
 
+  @Says(of = "Promise 7", words = "YARDS of a GIRL become v (1 .. 9): what they were")
+  private static void placeChangesHersAlone() {
+    leaves("there and back", Bounds::fair, x -> x.place(2, 1) * 10 + x.place(2, 9), 91);
+  }
+
   // ---- promise 8: train
 
   @Says(of = "Promise 8", words = "ARM of a THROWER becomes v (1 .. 9): what it was. UNKNOWN; OUTSIDE")
@@ -575,5 +601,10 @@ public final class BoundsOfDaleTest extends Bounds {
   private static void trainUnknownGoesFirst() {
     due("train(4, 10)", fair().train(4, 10), UNKNOWN);
     due("train(-1, 0)", fair().train(-1, 0), UNKNOWN);
+  }
+
+  @Says(of = "Promise 8", words = "ARM of a THROWER becomes v (1 .. 9): what it was")
+  private static void trainChangesHisAlone() {
+    leaves("there and back", Bounds::fair, x -> x.train(3, 1) * 10 + x.train(3, 9), 91);
   }
 }

@@ -94,6 +94,52 @@ public final class BoundsOfPairsTest extends Bounds {
     matched(x, 2, 20, 1, 0);
   }
 
+  @Says(of = "Terms 3", words = "those with the most GIRLS")
+  private static void matchGivesUpTheNearerGirlForOneMore() {
+    QuoitFeast x = dale("q0,50,90;r9;r6");
+    x.hurl(0, 1);
+    x.train(0, 5);
+    due("whom each wins", x.wins(0), 3);
+    due("whom each wins", x.wins(1), 1);
+    // thrower 0 and girl 0 alone would be 0 together
+    matched(x, 2, 5, 1, 0);
+  }
+
+  @Says(of = "Terms 3", words = "of these those with the least MEASURES together")
+  private static void matchOfFourGirlsAndFiveThrowersIsFoundThroughAll() {
+    QuoitFeast x = dale("q1,11,31,51,71;r6;r4;r2;r1;r1");
+    for (int g = 0; g < 4; g++) {
+      x.train(4, 2 * g + 1);
+      x.hurl(4, g);
+    }
+    x.train(4, 9);
+    int[] wins = {12, 6, 3, 1, 15};
+    for (int t = 0; t < 5; t++) due("wins(" + t + ")", x.wins(t), wins[t]);
+    // were thrower 0 given the lesser girl that he wins, thrower 4 would have to take one
+    matched(x, 4, 0, 3, 2, 1, 0, NONE);
+    x.train(3, 9);
+    // now nobody else has a ringer for the fourth girl that is left: the cheapest is girl 3 for thrower 4
+    matched(x, 4, 3, 2, 1, 0, NONE, 3);
+  }
+
+  @Says(of = "Terms 3", words = "of these those with the least MEASURES together")
+  private static void theLastThrowersAndTheLastGirlsMeasuresCount() {
+    matched(dale("q0,50;r4;r4;r4;r4;r9"), 1, 1, 0, NONE, NONE, NONE, NONE);
+    matched(dale("q0,50;r4;r4;r4;r4;r5"), 1, 0, NONE, NONE, NONE, NONE, 0);
+    matched(dale("q0,60,60,60,90;r5"), 1, 1, 0);
+    matched(dale("q0,60,60,60,50;r5"), 1, 0, 3);
+  }
+
+  @Says(of = "Terms 3", words = "MATCH: of all ways to give THROWERS a GIRL each that he WINS")
+  private static void matchAskedAgainIsAsAllIsNow() {
+    QuoitFeast x = dale("q0,50,50,50;r4;r5;r6");
+    matched(x, 3, 2, 0, 1, 2);
+    hurl(x, 8, 0, 0);
+    matched(x, 2, 1, 1, 2, NONE);
+    read(x, "q0,50;r9");
+    matched(x, 1, 4, 0);
+  }
+
   @Says(of = "Terms 3", words = "of these those with the least MEASURES together; of several the first as a row")
   private static void matchOfLessTogetherGoesBeforeTheFirstRow() {
     matched(dale("q0,50,40;r4;r5"), 2, 0, 1, 0);
@@ -182,6 +228,27 @@ public final class BoundsOfPairsTest extends Bounds {
       }
     }
     due("two who would rather each other, " + of, blocking, 0);
+  }
+
+  @Says(of = "Terms 3", words = "so many weddings that there are no two who would both rather each other")
+  private static void weddingAskedAgainIsAsAllIsNow() {
+    QuoitFeast x = dale("q0,50,50;r9;r5");
+    wed(x, 1, 0);
+    x.train(0, 5);
+    x.train(1, 1);
+    wed(x, 0, 1);
+    x.place(0, 1);
+    wed(x, 1, 0);
+    read(x, "q0,50;r9");
+    wed(x, 0);
+  }
+
+  @Says(of = "Terms 3", words = "each GIRL a THROWER whose MEASURE at her is less (of several the lesser)")
+  private static void weddingOfTheFifthThrowerAndTheFourthGirl() {
+    wed(dale("q0,50;r4;r4;r4;r4;r9"), 0, NONE, NONE, NONE, NONE);
+    wed(dale("q0,50;r4;r4;r4;r4;r5"), NONE, NONE, NONE, NONE, 0);
+    wed(dale("q0,60,60,60,90;r5"), 0);
+    wed(dale("q0,60,60,60,50;r5"), 3);
   }
 
   @Says(of = "Terms 3", words = "WEDDING: each THROWER would rather a GIRL at whom his MEASURE is less")

@@ -289,6 +289,12 @@ public final class BoundsOfReadingsTest extends Bounds {
     due("back(1)", new QuoitFeast().back(1), OUTSIDE);
   }
 
+  @Says(of = "Promise 19", words = "The last n READINGS (0 .. as many as there are) are taken back: how many are left")
+  private static void backTakesBackJustWhatReadingDid() {
+    leaves("back of none", Bounds::fair, x -> x.back(0), 3);
+    leaves("a reading and back", Bounds::fair, x -> x.reading(2, 0, 9) * 10 + x.back(1), 33);
+  }
+
   // ---- promises 20 to 22: leans, arms, kinds
 
   @Says(of = "Promise 20", words = "LEANS, as a set. UNKNOWN")

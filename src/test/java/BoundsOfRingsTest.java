@@ -313,6 +313,12 @@ public final class BoundsOfRingsTest extends Bounds {
     due("no dale", new QuoitFeast().lift(0), UNKNOWN);
   }
 
+  @Says(of = "Promise 11", words = "The last RING is LIFTED: who threw it")
+  private static void liftTakesBackJustWhatHurlDid() {
+    leaves("hurl and lift", Bounds::fair, x -> x.hurl(2, 1) * 10 + x.lift(1), 62);
+    leaves("lift of eight and hurl", Bounds::fair, x -> x.lift(0) * 10 + x.hurl(2, 0), 24);
+  }
+
   // ---- promise 12: clear
 
   @Says(of = "Promise 12", words = "A GIRL is CLEARED: how many RINGS lay with her. UNKNOWN")
@@ -328,6 +334,18 @@ public final class BoundsOfRingsTest extends Bounds {
     due("the other girl's stays", x.many(3), 1);
     due("no girl", x.clear(2), UNKNOWN);
     due("no girl", x.clear(-1), UNKNOWN);
+  }
+
+  @Says(of = "Promise 12", words = "A GIRL is CLEARED: how many RINGS lay with her")
+  private static void clearChangesHerRingsAlone() {
+    leaves("clear of none", Bounds::fair, x -> x.clear(2), 0);
+    QuoitFeast x = fair();
+    x.clear(0);
+    due("frost", x.many(2), 1);
+    due("rings with others", x.many(3), 2);
+    due("her yards", x.ofGirl(0, 0), 5);
+    due("her lean", x.ofGirl(0, 1), 1);
+    due("readings", x.many(4), 3);
   }
 
   // ---- promise 13: feast

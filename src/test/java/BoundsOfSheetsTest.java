@@ -239,6 +239,11 @@ public final class BoundsOfSheetsTest extends Bounds {
     faulty("null, index", new QuoitFeast(), x -> x.put(3, 60, 0), NULL);
   }
 
+  @Says(of = "Promise 26", words = "Cell i of a SHEET becomes v: 1")
+  private static void putChangesThatCellAlone() {
+    leaves("there and back", Bounds::fair, x -> x.put(1, 2, 5) * 10 + x.put(1, 2, 9), 11);
+  }
+
   // ---- promise 27: cell
 
   @Says(of = "Promise 27", words = "Cell i of what a SHEET has, taken as a row of a LANE")

@@ -23,6 +23,18 @@ public final class BoundsOfTermsTest extends Bounds {
     due("call 512", x.trace(), trace);
   }
 
+  @Says(of = "What it is", words = "what later calls answer is free")
+  private static void laterCallsAnswerSomethingAndDoNotThrow() {
+    QuoitFeast x = fair();
+    for (int call = 0; call < 2000; call++) {
+      x.tell(2);
+      x.reading(0, 0, call);
+      x.hurl(call % 6, call % 5);
+      x.dale(0, 0, 0, 23);
+    }
+    due("all were answered", 1, 1);
+  }
+
   // ---- refusals
 
   private static Map<String, Call> ofAGirl(int g) {
@@ -127,6 +139,57 @@ public final class BoundsOfTermsTest extends Bounds {
       noneUnknown("sheet " + k, ofASheet(k), maker);
       due("cell of sheet " + k, maker.make().cell(k, 0, 0), 0);
     }
+  }
+
+  @Says(of = "Terms", words = {
+    "REFUSALS, in the order in which a call's line tells them", "OUTSIDE (another number is not as told), STATE (as told), FULL"})
+  private static void ofTwoRefusalsTheOneThatTheLineTellsFirst() {
+    due("ofGirl: UNKNOWN before OUTSIDE", fair().ofGirl(3, 6), UNKNOWN);
+    due("ofThrower: UNKNOWN before OUTSIDE", fair().ofThrower(4, 5), UNKNOWN);
+    due("freeze: OUTSIDE before STATE", sheetsAlone().freeze(4), OUTSIDE);
+    due("lean: UNKNOWN before OUTSIDE", fair().lean(3, 10), UNKNOWN);
+    due("place: UNKNOWN before OUTSIDE", fair().place(3, 10), UNKNOWN);
+    due("train: UNKNOWN before OUTSIDE", fair().train(4, 10), UNKNOWN);
+    due("hurl: UNKNOWN before FULL", fair().hurl(4, 0), UNKNOWN);
+    due("feast: UNKNOWN before OUTSIDE", fair().feast(4, 3, 0, 0, 0), UNKNOWN);
+    due("feast: OUTSIDE before STATE", sheetsAlone().feast(2, 2, 0, 0, 5), OUTSIDE);
+    due("feast: STATE before a pair's OUTSIDE", sheetsAlone().feast(1, 1, 0, 1, 0), STATE);
+    due("feast: a pair's OUTSIDE before its UNKNOWN", fair().feast(1, 1, 0, 1, 0), OUTSIDE);
+    due("match: OUTSIDE before STATE", sheetsAlone().match(5), OUTSIDE);
+    due("reading: UNKNOWN before OUTSIDE", fair().reading(4, 0, 21), UNKNOWN);
+    due("sheet: UNKNOWN before OUTSIDE", fair().sheet(4, 3, 61), UNKNOWN);
+    due("as: UNKNOWN before OUTSIDE", fair().as(4, 3), UNKNOWN);
+    QuoitFeast full = fair();
+    for (int r = 0; r < 8; r++) full.reading(0, 0, 0);
+    due("reading: OUTSIDE before FULL", full.reading(0, 0, 21), OUTSIDE);
+    due("reading: FULL", full.reading(0, 0, 20), FULL);
+  }
+
+  @Says(of = "Terms", words = "Of a call the first that is come to, in the order told")
+  private static void ofTwoFaultsTheOneThatTheLineTellsFirst() {
+    faulty("dale: CAST before SIZE", fair(), x -> x.dale(0, 1, 0, -1), CAST);
+    faulty("dale: NULL before SIZE", fair(), x -> x.dale(3, 1, 0, -1), NULL);
+    faulty("dale: SIZE before INDEX", fair(), x -> x.dale(0, 0, -1, -1), SIZE);
+    faulty("feast: CAST before INDEX", fair(), x -> x.feast(2, 1, -1, 1, 0), CAST);
+    faulty("feast: NULL before INDEX", fair(), x -> x.feast(3, 1, -1, 1, 0), NULL);
+    faulty("put: NULL before INDEX", fair(), x -> x.put(3, -1, 0), NULL);
+    lost("cell: CAST before INDEX", fair(), x -> x.cell(0, -1, 1), CAST);
+    lost("cell: NULL before INDEX", fair(), x -> x.cell(3, -1, 1), NULL);
+    faulty("copy: NULL before INDEX", fair(), x -> x.copy(3, -1, 0, 0, 1), NULL);
+    faulty("copy: CAST before INDEX", fair(), x -> x.copy(0, -1, 1, 0, 1), CAST);
+  }
+
+  @Says(of = "Terms", words = "REFUSALS, in the order in which a call's line tells them")
+  private static void refusalsAndFaultsMeetInTheOrderOfTheLine() {
+    due("dale: OUTSIDE before CAST", fair().dale(0, 3, 0, 23), OUTSIDE);
+    due("dale: OUTSIDE before NULL", fair().dale(3, 3, 0, 23), OUTSIDE);
+    due("feast: OUTSIDE before NULL", fair().feast(3, 2, 0, 21, 0), OUTSIDE);
+    faulty("feast: INDEX before STATE", sheetsAlone(), x -> x.feast(2, 2, 7, 0, 0), INDEX);
+    due("sheet: OUTSIDE before SIZE", fair().sheet(0, 3, -1), OUTSIDE);
+    due("put: UNKNOWN before NULL", new QuoitFeast().put(4, 0, 0), UNKNOWN);
+    lost("cell: OUTSIDE before NULL", new QuoitFeast(), x -> x.cell(0, 0, 3), 0);
+    due("copy: UNKNOWN of the other before NULL of the first", fair().copy(3, 0, 4, 0, 0), UNKNOWN);
+    due("as: OUTSIDE before CAST", fair().as(0, 3), OUTSIDE);
   }
 
   /** Refused calls that name faults; all are asked of fair(). */
