@@ -114,7 +114,7 @@ public final class BoundsOfDaleTest extends Bounds {
     faultAt(7, "q0,10;r/");
   }
 
-  @Says(of = "Terms 1", words = "the place (from 0 on) of the first code with which no TEXT goes on")
+  @Says(of = "Terms 1", words = "FIRST FAULT: the place (from 0 on) of the first code with which no TEXT goes on")
   private static void noGirlGoesOnBehindAThrower() {
     faultAt(8, "q0,10;r1,20");
     faultAt(8, "q0,10;r1,20;r1");
@@ -403,7 +403,7 @@ public final class BoundsOfDaleTest extends Bounds {
 
   // ---- promise 3: ofGirl
 
-  @Says(of = "Promise 3", words = {"Of a GIRL: 0 YARDS", "5 how many of the RINGS are RINGERS", "UNKNOWN; OUTSIDE"})
+  @Says(of = "Promise 3", words = {"Of a GIRL: 0 YARDS, 1 LEAN", "5 how many of the RINGS are RINGERS", "UNKNOWN; OUTSIDE"})
   private static void ofGirlAsks0To5() {
     QuoitFeast x = dale("q0,62;r5;r1");
     x.hurl(1, 0);
@@ -469,7 +469,7 @@ public final class BoundsOfDaleTest extends Bounds {
 
   // ---- promise 4: ofThrower
 
-  @Says(of = "Promise 4", words = {"Of a THROWER: 0 kind", "4 how many of his RINGS lie", "UNKNOWN; OUTSIDE"})
+  @Says(of = "Promise 4", words = {"Of a THROWER: 0 kind, 1 ARM, 2 REACH", "4 how many of his RINGS lie", "UNKNOWN; OUTSIDE"})
   private static void ofThrowerAsks0To4() {
     QuoitFeast x = dale("q0,62,31;r9;l5");
     x.hurl(1, 0);

@@ -260,7 +260,7 @@ public final class BoundsOfPairsTest extends Bounds {
 
   // ---- even
 
-  @Says(of = "Terms 3", words = "YARDS 1 .. 9 by which both have one MEASURE at her")
+  @Says(of = "Terms 3", words = "EVEN of two THROWERS at a GIRL: YARDS 1 .. 9 by which both have one MEASURE at her")
   private static void evenAtYards1And9AndNotBeyond() {
     due("between 1 and 2, leaning 1, from 1", dale("q0,11;r1;r2").even(0, 1, 0), 1);
     due("between 1 and 1", dale("q0,10;r1;r1").even(0, 1, 0), 1);
@@ -382,7 +382,7 @@ public final class BoundsOfPairsTest extends Bounds {
 
   // ---- promise 16: weds
 
-  @Says(of = "Promise 16", words = "the GIRL of a THROWER; NONE. UNKNOWN")
+  @Says(of = "Promise 16", words = "WEDDING: the GIRL of a THROWER; NONE. UNKNOWN")
   private static void wedsOneWhoIsLeftOverNone() {
     QuoitFeast x = dale("q0,50,50,50,50;r5;r5;r5;r5;r5");
     for (int t = 0; t < 4; t++) due("weds(" + t + ")", x.weds(t), t);

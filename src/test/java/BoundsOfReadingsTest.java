@@ -58,7 +58,7 @@ public final class BoundsOfReadingsTest extends Bounds {
     due("at 9 yards", x.arms(0), 1 << 8);
   }
 
-  @Says(of = "Terms 4", words = "in place of what it is alone, by which all READINGS are so")
+  @Says(of = "Terms 4", words = "All that follows: in place of what it is alone, by which all READINGS are so")
   private static void whatIsAskedForStandsInPlaceOfWhatItIs() {
     QuoitFeast x = read("q1,50;r9", 0);
     due("leans, he is 4 off", x.leans(0), ALL_LEANS & -(1 << 4));
@@ -140,7 +140,7 @@ public final class BoundsOfReadingsTest extends Bounds {
     due("leaning 9: all", read("q0,59;r5", 0).arms(0), ALL_ARMS);
   }
 
-  @Says(of = "Terms 4", words = "KINDS of a THROWER: 0 .. 2")
+  @Says(of = "Terms 4", words = "KINDS of a THROWER: 0 .. 2; as sets")
   private static void kindsFrom0To2() {
     due("reach 9", read("q0,90;r9", 0).kinds(0), 1);
     due("reach 10", read("q0,90;r9", 1).kinds(0), 2);
@@ -154,7 +154,7 @@ public final class BoundsOfReadingsTest extends Bounds {
 
   // ---- odds
 
-  @Says(of = "Terms 4", words = "if his REACH is 1 less, as it is, 1 more, all alike")
+  @Says(of = "Terms 4", words = "ODDS of a THROWER and a GIRL: if his REACH is 1 less, as it is, 1 more, all alike")
   private static void oddsOfEachOfTheThreeReachesAlone() {
     QuoitFeast x = dale("q0,50;r4;r6;r4;r5;r9");
     x.hurl(0, 0);

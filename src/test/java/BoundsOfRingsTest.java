@@ -6,7 +6,7 @@ public final class BoundsOfRingsTest extends Bounds {
 
   // ---- rings that lie
 
-  @Says(of = "Terms 2", words = "a RING of that MEASURE lies with her, on all others (eight at most)")
+  @Says(of = "Terms 2", words = "A THROW at a GIRL: a RING of that MEASURE lies with her, on all others (eight at most)")
   private static void eightRingsLieAtMost() {
     QuoitFeast x = dale("q0,50,50;r4;r5");
     for (int r = 1; r <= 8; r++) {
@@ -139,6 +139,24 @@ public final class BoundsOfRingsTest extends Bounds {
   }
 
   // ---- feasts
+
+  @Says(of = "Terms 2", words = "A FEAST told: a row of pairs, one behind another")
+  private static void aFeastTellsPairsInTheirOrder() {
+    QuoitFeast x = dale("q1,50;r4;r6;r5");
+    due("of two alike the first", feast(x, 10, 0, 0, 1, 0), 0);
+    due("of two alike the first", feast(x, 10, 1, 0, 0, 0), 1);
+    due("of two ringers the last", feast(x, 10, 0, 0, 2, 0, 1, 0), 2);
+    due("thrown, then cleared", feast(x, 0, 0, 0, 0, 11), 0);
+    due("cleared, then thrown", feast(x, 0, 0, 11, 0, 0), 1);
+    due("the later frost", feast(x, 4, 2, 10, 3, 10), 3);
+    due("the later frost", feast(x, 4, 3, 10, 2, 10), 2);
+    due("frost ahead of the first: he is farther", feast(x, 10, 3, 10, 0, 0, 1, 10, 1, 0), 1);
+    due("frost behind the first", feast(x, 10, 1, 10, 0, 0, 3, 10, 1, 0), 0);
+    // cells 1 2 3 4: frost of the first pair is the second of no pair
+    row(x, 2, 2, 9, 1, 10, 2, 10, 9);
+    due("pairs do not overlap", x.feast(2, 2, 1, 2, 4), 2);
+    due("one pair alone", x.feast(2, 2, 1, 1, 4), 1);
+  }
 
   @Says(of = "Terms 2", words = "from how all is now (nothing is changed)")
   private static void aFeastChangesNothing() {

@@ -88,7 +88,7 @@ public final class BoundsOfSheetsTest extends Bounds {
     return trace;
   }
 
-  @Says(of = "Terms 5", words = "TRACE (an int that wraps, 0 at first, becomes 31 times it and the number)")
+  @Says(of = "Terms 5", words = "TELLING of THROWERS by bodies that leave their number in TRACE (an int that wraps, 0 at first, becomes 31 times it and the number)")
   private static void traceBegins0AndWraps() {
     QuoitFeast x = dale("q0,50;r5");
     due("at first", x.trace(), 0);

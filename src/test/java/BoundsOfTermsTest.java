@@ -322,7 +322,7 @@ public final class BoundsOfTermsTest extends Bounds {
   }
 
   @Says(of = "Terms", words = {
-    "1 NULL (there is nothing), 2 CAST (it is of another lane, kind), 3 INDEX", "4 SIZE (a length below 0)",
+    "FAULTS are the machine's: 1 NULL (there is nothing), 2 CAST (it is of another lane, kind), 3 INDEX", "4 SIZE (a length below 0)",
     "it answers -10 less it (LOST, where a long is answered, as for refusals) and changes nothing; fault() tells it"})
   private static void faultsAreAnsweredAsMinus10LessTheirNumber() {
     faultyCalls().forEach((name, asks) -> faulty(name, fair(), asks, numberAhead(name)));

@@ -5,8 +5,6 @@ import java.lang.annotation.RetentionPolicy;
 import java.lang.annotation.Target;
 import java.lang.reflect.InvocationTargetException;
 import java.lang.reflect.Method;
-import java.nio.file.Files;
-import java.nio.file.Path;
 import java.util.ArrayList;
 import java.util.Arrays;
 import java.util.Comparator;
@@ -22,7 +20,6 @@ abstract class Bounds {
   static final long LOST = Long.MIN_VALUE;
   /** Three girls, a thrower of each kind and one more: so girl 3 and thrower 4 are just not there. */
   static final String FAIR = "q1,51,30,92;r4;l4;s4;r9";
-  private static final Path DOCUMENT = Path.of("../shared/DOC.md");
 
   private static String test = "";
   private static int asked = 0;
@@ -48,8 +45,7 @@ abstract class Bounds {
   // ---- the runner
 
   static void run(Class<?> tests, String... parts) throws IOException, IllegalAccessException {
-    String document = Files.isReadable(DOCUMENT) ? Files.readString(DOCUMENT) : null;
-    if (document == null) System.out.println("no " + DOCUMENT + ": the words are not looked up");
+    Document document = Document.read();
     List<Method> all = new ArrayList<>();
     for (Method m : tests.getDeclaredMethods()) if (m.isAnnotationPresent(Says.class)) all.add(m);
     all.sort(Comparator.comparing(Method::getName));
@@ -58,7 +54,9 @@ abstract class Bounds {
       Says says = m.getAnnotation(Says.class);
       test = says.of() + ", " + m.getName();
       untested.remove(says.of());
-      if (document != null) for (String words : says.words()) lookUp(document, says.of(), words);
+      for (String words : says.words()) {
+        if (!document.says(says.of(), words)) fail("the document does not say: " + words);
+      }
       runOne(m);
     }
     if (!untested.isEmpty()) {
@@ -83,32 +81,6 @@ abstract class Bounds {
   private static void fail(String why) {
     wrong++;
     System.out.println(test + ": " + why);
-  }
-
-  private static void lookUp(String document, String of, String words) {
-    if (!plain(partOf(document, of)).contains(plain(words))) fail("the document does not say: " + words);
-  }
-
-  private static String plain(String text) {
-    return text.replaceAll("\\s+", " ");
-  }
-
-  private static String partOf(String document, String of) {
-    if (of.startsWith("Promise ")) return between(document, "\n## " + of + ":", "\n## ");
-    if (of.equals("Terms")) return between(document, "\n## Terms", "\n==== 1");
-    if (of.startsWith("Terms ")) return between(document, "\n==== " + of.substring(6), "\n====", "\nAhead of");
-    return between(document, "\n## " + of, "\n## ");
-  }
-
-  private static String between(String text, String from, String... untilAny) {
-    int begin = text.indexOf(from);
-    if (begin < 0) return "";
-    int end = text.length();
-    for (String until : untilAny) {
-      int at = text.indexOf(until, begin + from.length());
-      if (at >= 0 && at < end) end = at;
-    }
-    return text.substring(begin, end);
   }
 
   // ---- what is asked
