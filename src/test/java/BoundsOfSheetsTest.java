@@ -323,6 +323,27 @@ public final class BoundsOfSheetsTest extends Bounds {
     due("the last of 60", full.cell(1, 59, 0), 5);
   }
 
+  @Says(of = "Promise 28", words = "n cells of a SHEET from i on go to another one (perhaps the same) from j on, as they were: n")
+  private static void copyLeavesTheCellsAroundAlone() {
+    for (int other = 0; other <= 1; other++) {
+      for (int i = 0; i <= 6; i++) {
+        for (int j = 0; j <= 6; j++) {
+          for (int n = 0; n <= 6 - Math.max(i, j); n++) copyOfSix(i, other, j, n);
+        }
+      }
+    }
+  }
+
+  private static void copyOfSix(int i, int other, int j, int n) {
+    QuoitFeast x = sheet(0, 1, 2, 3, 4, 5, 6);
+    row(x, 1, 0, 11, 12, 13, 14, 15, 16);
+    int[][] want = {{1, 2, 3, 4, 5, 6}, {11, 12, 13, 14, 15, 16}};
+    for (int c = 0; c < n; c++) want[other][j + c] = 1 + i + c;
+    String name = "copy(0, " + i + ", " + other + ", " + j + ", " + n + ")";
+    due(name, x.copy(0, i, other, j, n), n);
+    for (int k = 0; k <= 1; k++) cellsAre(name + ", sheet " + k, x, k, 0, want[k]);
+  }
+
   @Says(of = "Promise 28", words = "FAULTS NULL (the first, the other)")
   private static void copyFromOrToNothing() {
     faulty("from nothing", fair(), x -> x.copy(3, 0, 0, 0, 0), NULL);
